@@ -1069,6 +1069,9 @@ public final class QuestionDesk {
         }
 
         int better(int x, int y) {
+            if (x == y) {
+                return x;
+            }
             int by = margin(x, y);
             return by == 0 ? chairsOf(x, y) : by > 0 ? x : y;
         }
