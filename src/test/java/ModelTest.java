@@ -80,7 +80,7 @@ public final class ModelTest {
     }
 
     private int shelf() {
-        return pick(0, 7);
+        return dice.nextInt(3) == 0 ? pick(0, 7) : pick(0, 2);
     }
 
     private int told(int kind, boolean voices) {

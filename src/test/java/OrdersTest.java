@@ -8,6 +8,7 @@ public final class OrdersTest {
         Checks.test("promise 23: first, seven ends", OrdersTest::firstOfSeven);
         Checks.test("promise 24: best", OrdersTest::best);
         Checks.test("promise 25: top", OrdersTest::top);
+        Checks.test("promise 22: reach, seven ends of which one is neither covered nor comes", OrdersTest::reachOfSeven);
         Checks.test("promises 21 to 25, 34: all ways of beating among five", OrdersTest::allOfFive);
         Checks.end();
     }
@@ -126,6 +127,31 @@ public final class OrdersTest {
         for (int b = 0; b < 2; b++) {
             Checks.due("the one that beats all", x.first(6, b == 1), code(0, 1, 2, 3, 4, 5, 6));
             Checks.due("another", x.first(5, b == 1), -4);
+        }
+    }
+
+    private static void reachOfSeven() {
+        String[] wishes = {"3465120", "5316240", "1403256", "0132654", "2561304"};
+        QuestionDesk x = new QuestionDesk();
+        Model model = new Model();
+        x.set(0, 7);
+        model.set(0, 7);
+        for (int m = 0; m < 5; m++) {
+            Desks.member(x, 0, 10, wishes[m]);
+            model.member(0, 10);
+            for (int end = 0; end < 7; end++) {
+                model.wish(m, end, wishes[m].charAt(end) - '0');
+            }
+        }
+        Checks.due("TOP", x.top(0), 127);
+        Checks.due("PLAIN", x.reach(false), 127);
+        Checks.due("UNCOVERED", x.top(1), 115);
+        Checks.due("DEEP", x.reach(true), 113);
+        Checks.due("the model's", model.reach(true), 113);
+        for (int end = 0; end < 7; end++) {
+            Checks.due("first " + end, x.first(end, true), model.first(end, true));
+            Checks.due("first " + end, x.first(end, false), model.first(end, false));
+            Checks.due("ring " + end, x.ring(end), model.ring(end));
         }
     }
 

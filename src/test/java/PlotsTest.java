@@ -117,6 +117,12 @@ public final class PlotsTest {
         Checks.due("a PLAIN one likes it anyway", x.tell(t, 2), 1 + 2 + 16);
         x.becomes(4, 30);
         Checks.due("the one with two voices can't be told", x.tell(t, 2), -4);
+        QuestionDesk y = new QuestionDesk();
+        int u = Desks.tree(y, "((1v0)v2)");
+        Desks.member(y, 3, 10, "201");
+        Desks.member(y, 0, 10, "012");
+        Desks.member(y, 0, 10, "120");
+        Checks.due("the first one can't be told", y.tell(u, 2), -4);
     }
 
     private static void falseVote() {
@@ -271,6 +277,14 @@ public final class PlotsTest {
         x.set(0, 2);
         Checks.due("2 is not there, so it is liked least", x.bestLie(t, 1, 0), code(0, 1));
         Checks.due("0 comes then", x.bestLie(t, 1, 1), 0);
+        QuestionDesk y = new QuestionDesk();
+        int u = Desks.tree(y, "{1>0:0/2}");
+        Desks.member(y, 0, 10, "051");
+        Checks.due("1 ahead of 0 brings 0", y.bestLie(u, 0, 0), code(1, 0, 2));
+        Checks.due("0 comes", y.bestLie(u, 0, 1), 0);
+        Desks.wishes(y, 0, "999");
+        Checks.due("all as bad", y.bestLie(u, 0, 0), code(0, 1, 2));
+        Checks.due("all as bad", y.bestLie(u, 0, 1), 2);
         int[][] wrong = {{t + 1, 0, 0}, {-1, 0, 0}, {t, 3, 0}, {t, -1, 0}, {t, 0, 2}, {t, 0, -1}};
         for (int[] w : wrong) {
             Checks.due("wrong", x.bestLie(w[0], w[1], w[2]), -1);
@@ -395,6 +409,7 @@ public final class PlotsTest {
         x.set(1, 1);
         Checks.due("one likes 1: the greater", x.breach(end, 0, 2, false), 2);
         x.set(1, 0);
+        Checks.due("one who likes 0", x.breach(Desks.tree(x, "1"), 0, 1, false), 0);
         int t = Desks.tree(x, "(0v1)");
         Checks.due("2 is liked, but not in it", x.breach(t, 0, 1, false), 4);
         int u = Desks.tree(x, "((0v1)v2)");
@@ -428,6 +443,7 @@ public final class PlotsTest {
         QuestionDesk x = new QuestionDesk();
         int t = Desks.tree(x, "{0>1:1/0}");
         Checks.due("0 comes by 102", x.breach(t, 2, 1, false), 0);
+        Checks.due("by 012 alone", x.breach(Desks.tree(x, "{0>1:{1>2:0/2}/2}"), 2, 1, false), 1);
         int u = Desks.tree(x, "((0v1)v2)");
         Checks.due("PLAIN", x.breach(u, 2, 3, false), 21);
         Checks.due("DEEP", x.breach(u, 2, 3, true), 22);
@@ -442,7 +458,9 @@ public final class PlotsTest {
         int u = Desks.tree(x, "(0v3)");
         int v = Desks.tree(x, "{3>0:1/2}");
         int w = Desks.tree(x, "{0>3:1/2}");
-        int[][] wrong = {{5, 0, 1}, {-1, 0, 1}, {t, 3, 1}, {t, -1, 1}, {t, 0, 0}, {t, 0, 4}, {u, 3, 1}, {u, 0, 4}};
+        Checks.due("3 is all", x.breach(Desks.tree(x, "3"), 0, 1, false), -3);
+        Checks.due("3 is asked among others", x.breach(Desks.tree(x, "{3>0:{0>1:1/2}/2}"), 0, 1, false), -3);
+        int[][] wrong = {{6, 0, 1}, {-1, 0, 1}, {t, 3, 1}, {t, -1, 1}, {t, 0, 0}, {t, 0, 4}, {u, 3, 1}, {u, 0, 4}};
         for (int[] n : wrong) {
             Checks.due("wrong", x.breach(n[0], n[1], n[2], false), -1);
         }

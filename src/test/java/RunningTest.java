@@ -232,6 +232,7 @@ public final class RunningTest {
         Checks.due("in a question in the part", x.why(u, 1, 1), -2);
         x.bought(1, 0);
         Checks.due("in the first part", x.why(t, 0, 1), 2);
+        Checks.due("in a question that is the first part", x.why(u, 0, 1), 2);
         Checks.due("the party counts it as PLAIN", x.why(t, 0, 0), -1);
         x.bought(1, 1);
         Checks.due("in the second part", x.why(u, 0, 1), -2);
@@ -274,6 +275,13 @@ public final class RunningTest {
         Checks.due("all PLAIN", x.ifAll(t, 0), 0);
         Checks.due("all DEEP", x.ifAll(t, 1), 2);
         Checks.due("they are as they were", x.about(0, 0) * 100 + x.about(1, 0) * 10 + x.about(2, 0), 324);
+        QuestionDesk y = new QuestionDesk();
+        int u = Desks.tree(y, "(0v1)");
+        Desks.member(y, 4, 10, "01");
+        y.bought(0, 1);
+        Checks.due("bought", y.run(u), 1);
+        Checks.due("PLAIN, not bought", y.ifAll(u, 0), 0);
+        Checks.due("DEEP, not bought", y.ifAll(u, 1), 0);
         Checks.due("kind", x.ifAll(t, 2), -1);
         Checks.due("kind", x.ifAll(t, -1), -1);
         Checks.due("no tree", x.ifAll(t + 1, 0), -1);

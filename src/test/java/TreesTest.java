@@ -71,6 +71,7 @@ public final class TreesTest {
         Checks.due("seven {", faultOf(2, "{0>1:{0>1:{0>1:{0>1:{0>1:{0>1:{"), 30);
         Checks.due("six and a (", faultOf(2, "({0>1:({0>1:({0>1:("), 18);
         Checks.due("the second part is as deep", faultOf(2, "(0v(0v(0v(0v(0v(0v(0v1)))))))"), 18);
+        Checks.due("so it is of a { }", faultOf(2, "{0>1:0/{0>1:0/{0>1:0/{0>1:0/{0>1:0/{0>1:0/{0"), 42);
         Checks.due("six in the second part", faultOf(2, "(0v(0v(0v(0v(0v(0v1))))))"), -4);
         Checks.due("closed ones don't count", faultOf(2, "((((((0v1)v(0v1))v(0v1))v(0v1))v(0v1))v(0v1))"), -4);
     }
