@@ -134,23 +134,11 @@ public final class QuestionDesk {
     }
 
     public int wish(int member, int end, int n) {
-        Member m = now.memberAt(member);
-        if (m == null || !isEnd(end) || !within(n, 0, WORST_WISH)) {
-            return NO_SUCH;
-        }
-        int was = m.wishes[end];
-        m.wishes[end] = n;
-        return was;
+        return changeWish(member, end, n, false);
     }
 
     public int doubted(int member, int end, int n) {
-        Member m = now.memberAt(member);
-        if (m == null || !isEnd(end) || !within(n, 0, WORST_WISH)) {
-            return NO_SUCH;
-        }
-        int was = m.doubts[end];
-        m.doubts[end] = n;
-        return was;
+        return changeWish(member, end, n, true);
     }
 
     public int sure(int member, int n) {
@@ -639,6 +627,17 @@ public final class QuestionDesk {
         return within(end, 0, now.ends - 1);
     }
 
+    private int changeWish(int member, int end, int n, boolean doubted) {
+        Member m = now.memberAt(member);
+        if (m == null || !isEnd(end) || !within(n, 0, WORST_WISH)) {
+            return NO_SUCH;
+        }
+        int[] told = doubted ? m.doubts : m.wishes;
+        int was = told[end];
+        told[end] = n;
+        return was;
+    }
+
     private Shelf shelfAt(int d) {
         return within(d, 0, SHELVES - 1) ? shelves[d] : null;
     }
@@ -928,7 +927,8 @@ public final class QuestionDesk {
         }
 
         Tree treeRead() {
-            return new Tree(nodes, Arrays.copyOf(what, nodes), Arrays.copyOf(second, nodes), Arrays.copyOf(pairs, nodes));
+            return new Tree(nodes, Arrays.copyOf(what, nodes), Arrays.copyOf(second, nodes),
+                    Arrays.copyOf(pairs, nodes));
         }
 
         private boolean readPart(int depth) {
@@ -1168,7 +1168,8 @@ public final class QuestionDesk {
                     return one.voices * sideOfBought(one, a, b);
                 case MIXED:
                     int half = one.voices / 2;
-                    return half * one.leaning(names[a], names[b]) + (one.voices - half) * one.leaning(comes[a], comes[b]);
+                    return half * one.leaning(names[a], names[b])
+                            + (one.voices - half) * one.leaning(comes[a], comes[b]);
                 default:
                     return one.voices * one.leaning(names[a], names[b]);
             }

@@ -12,6 +12,7 @@ public final class TreesTest {
         Checks.test("promise 12: of, names that change", TreesTest::names);
         Checks.test("promise 12: of, refusals", TreesTest::ofRefusals);
         Checks.test("the longest texts", TreesTest::longest);
+        Checks.test("the longest texts that end too early", TreesTest::longestCut);
         Checks.end();
     }
 
@@ -198,5 +199,22 @@ public final class TreesTest {
         }
         Desks.text(x, 0, open.substring(0, 120));
         Checks.due("a long text with a fault", x.fault(0), 18);
+    }
+
+    private static void longestCut() {
+        String[] leads = {"", "(1v", "{0>1:1/"};
+        int inChoices = 0;
+        for (String lead : leads) {
+            String base = lead + full(5);
+            Checks.due("cut in a question", faultOf(2, base.substring(0, 120)), 120);
+            for (int p = 112; p < 120; p++) {
+                if (base.charAt(p) == '(' || lead.isEmpty() && base.charAt(p) == '1') {
+                    String text = base.substring(0, p) + "{0>1:1/1}";
+                    Checks.due("cut in a { } from " + p, faultOf(2, text.substring(0, 120)), 120);
+                    inChoices |= 1 << 120 - p;
+                }
+            }
+        }
+        Checks.holds("cut ahead of both ends of a { }: " + inChoices, (inChoices >> 1 & 1) == 1 && (inChoices >> 3 & 1) == 1);
     }
 }
