@@ -52,6 +52,7 @@ public final class QuestionDesk {
     private static final int NOTHING = 0;
     private static final int A_MEMBER = 1;
     private static final int A_ROW = 2;
+    private static final int A_ROW_OF_BYTES = 3;
     private static final int BYTES = 0;
     private static final int SHORTS = 1;
     private static final int INTS = 2;
@@ -170,11 +171,8 @@ public final class QuestionDesk {
 
     public int fault(int d) {
         Shelf shelf = shelfAt(d);
-        if (shelf == null) {
-            return NO_SUCH;
-        }
-        int refusal = shelf.bytesRefusal();
-        if (refusal != NO_REFUSAL) {
+        int refusal = refusalOf(shelf, A_ROW_OF_BYTES);
+        if (shelf == null || refusal != NO_REFUSAL) {
             return refusal;
         }
         int place = reader.faultOf(shelf.cells, shelf.size, now.ends);
@@ -189,7 +187,7 @@ public final class QuestionDesk {
         if (now.trees >= TREES) {
             return NO_ROOM;
         }
-        int refusal = shelf.bytesRefusal();
+        int refusal = refusalOf(shelf, A_ROW_OF_BYTES);
         if (refusal != NO_REFUSAL) {
             return refusal;
         }
@@ -305,11 +303,8 @@ public final class QuestionDesk {
 
     public int order(int d, boolean deep) {
         Shelf shelf = shelfAt(d);
-        if (shelf == null) {
-            return NO_SUCH;
-        }
-        int refusal = shelf.bytesRefusal();
-        if (refusal != NO_REFUSAL) {
+        int refusal = refusalOf(shelf, A_ROW_OF_BYTES);
+        if (shelf == null || refusal != NO_REFUSAL) {
             return refusal;
         }
         weighOrders();
@@ -384,7 +379,7 @@ public final class QuestionDesk {
         if (t == null || shelf == null) {
             return NO_SUCH;
         }
-        int refusal = shelf.bytesRefusal();
+        int refusal = refusalOf(shelf, A_ROW_OF_BYTES);
         if (refusal != NO_REFUSAL) {
             return refusal;
         }
@@ -436,11 +431,8 @@ public final class QuestionDesk {
 
     public int usual(int d) {
         Shelf shelf = shelfAt(d);
-        if (shelf == null) {
-            return NO_SUCH;
-        }
-        int refusal = shelf.bytesRefusal();
-        if (refusal != NO_REFUSAL) {
+        int refusal = refusalOf(shelf, A_ROW_OF_BYTES);
+        if (shelf == null || refusal != NO_REFUSAL) {
             return refusal;
         }
         if (shelf.size < now.ends) {
@@ -535,11 +527,8 @@ public final class QuestionDesk {
 
     public int put(int d, int i, int v) {
         Shelf shelf = shelfAt(d);
-        if (shelf == null) {
-            return NO_SUCH;
-        }
-        int refusal = shelf.rowRefusal();
-        if (refusal != NO_REFUSAL) {
+        int refusal = refusalOf(shelf, A_ROW);
+        if (shelf == null || refusal != NO_REFUSAL) {
             return refusal;
         }
         if (!within(i, 0, shelf.size - 1)) {
@@ -554,7 +543,7 @@ public final class QuestionDesk {
         if (shelf == null) {
             throw new IllegalArgumentException("no such shelf");
         }
-        if (shelf.rowRefusal() != NO_REFUSAL) {
+        if (refusalOf(shelf, A_ROW) != NO_REFUSAL) {
             throw new IllegalStateException("no row");
         }
         if (!within(i, 0, shelf.size - 1)) {
@@ -584,20 +573,17 @@ public final class QuestionDesk {
 
     public int heft(int d) {
         Shelf shelf = shelfAt(d);
-        if (shelf == null) {
-            return NO_SUCH;
+        int refusal = refusalOf(shelf, A_MEMBER);
+        if (shelf == null || refusal != NO_REFUSAL) {
+            return refusal;
         }
-        int refusal = shelf.memberRefusal();
-        return refusal != NO_REFUSAL ? refusal : shelf.member.weight();
+        return shelf.member.weight();
     }
 
     public int toss(int d) {
         Shelf shelf = shelfAt(d);
-        if (shelf == null) {
-            return NO_SUCH;
-        }
-        int refusal = shelf.memberRefusal();
-        if (refusal != NO_REFUSAL) {
+        int refusal = refusalOf(shelf, A_MEMBER);
+        if (shelf == null || refusal != NO_REFUSAL) {
             return refusal;
         }
         Member m = shelf.member;
@@ -640,6 +626,16 @@ public final class QuestionDesk {
 
     private Shelf shelfAt(int d) {
         return within(d, 0, SHELVES - 1) ? shelves[d] : null;
+    }
+
+    private static int refusalOf(Shelf shelf, int wanted) {
+        if (shelf == null) {
+            return NO_SUCH;
+        }
+        if (shelf.holds == NOTHING) {
+            return HOLDS_NOTHING;
+        }
+        return shelf.isA(wanted) ? NO_REFUSAL : OTHER_KIND;
     }
 
     private int comesIfAll(Tree t, int kind) {
@@ -747,23 +743,8 @@ public final class QuestionDesk {
             }
         }
 
-        int memberRefusal() {
-            return refusalUnless(A_MEMBER);
-        }
-
-        int rowRefusal() {
-            return refusalUnless(A_ROW);
-        }
-
-        int bytesRefusal() {
-            return holds == A_ROW && sort != BYTES ? OTHER_KIND : refusalUnless(A_ROW);
-        }
-
-        private int refusalUnless(int wanted) {
-            if (holds == NOTHING) {
-                return HOLDS_NOTHING;
-            }
-            return holds == wanted ? NO_REFUSAL : OTHER_KIND;
+        boolean isA(int wanted) {
+            return wanted == A_ROW_OF_BYTES ? holds == A_ROW && sort == BYTES : holds == wanted;
         }
 
         boolean hasPlaces(int from, int n) {
@@ -1711,13 +1692,15 @@ public final class QuestionDesk {
 
         private boolean isBrokenByOne(int law, int chamber) {
             int unit = 1;
+            int left = chamber;
             for (int m = size - 1; m >= 0; m--) {
-                int liking = chamber / unit % LIKINGS;
+                int liking = left % LIKINGS;
                 int others = chamber - liking * unit;
                 if (law == 1 ? fallsWhenLifted(others, unit, liking) : gainsByLying(others, unit, liking)) {
                     return true;
                 }
                 unit *= LIKINGS;
+                left /= LIKINGS;
             }
             return false;
         }

@@ -19,6 +19,7 @@ public final class OrderEdgesTest {
         top();
         ring();
         usual();
+        chambersOfAllSizes();
         Checks.end();
     }
 
@@ -43,6 +44,7 @@ public final class OrderEdgesTest {
                 "bytes:0:0,2,1 order(0,false)=1 bytes:0:1,0,2 order(0,false)=2 bytes:0:2,1,0 order(0,false)=0");
         Script.edge("4: with DEEP ones, from behind", "round bytes:0:0,1,2 order(0,true)=1 bytes:0:1,2,0 order(0,true)=2 bytes:0:2,0,1 order(0,true)=0",
                 "bytes:0:0,2,1 order(0,true)=0 bytes:0:1,0,2 order(0,true)=1 bytes:0:2,1,0 order(0,true)=2");
+        Script.edge("4: with DEEP ones: x, if there is no i-th: two of them", "round bytes:0:0,2 order(0,true)=2 bytes:0:2,1 order(0,true)=1 bytes:0:1,0 order(0,true)=0");
         Script.edge("4: with DEEP ones (either, if they are one)", LINE, "bytes:0:3,2,1,0 order(0,true)=0 bytes:0:5,6,2 order(0,true)=2");
         Script.edge("4: with DEEP ones: one that BEATS the last, but not what comes of those between", STAIRS, "bytes:0:5,4,2,0", both("order(0,#)", 4, 4), "bytes:0:5,2,0", both("order(0,#)", 5, 5));
         Script.edge("4: ORDERS: at 0 the CHAIR's rule", "bytes:0:2,1,0", same("order(0,#)", 0), "set(1,1)=0", same("order(0,#)", 2));
@@ -135,5 +137,82 @@ public final class OrderEdgesTest {
         Script.edge("35: usual, -11", "usual(0)=-11");
         Script.edge("35: usual, -12 (no ROW of bytes)", "member(0,10)=0 keep(0,1,0)=0 usual(0)=-12 row(0,1,3)=0 usual(0)=-12 row(0,2,3)=0 usual(0)=-12");
         Script.edge("35: usual, -12 ahead of -13", "row(0,1,2)=0 usual(0)=-12 row(0,2,0)=0 usual(0)=-12");
+    }
+
+    private interface Claim {
+        void of(QuestionDesk x, int ends);
+    }
+
+    private static void chambersOfAllSizes() {
+        overChambers("4: A RING of all of TOP there is always, if TOP has 3 or more", OrderEdgesTest::ringIsOne);
+        overChambers("4: REACH and FIRST: an ORDER is told for those ENDS alone that come, and brings them", OrderEdgesTest::firstBrings);
+        overChambers("4: BEST of all is TOP, REACH and UNCOVERED alone", OrderEdgesTest::bestIsAlone);
+    }
+
+    /** Desks of 1 .. 7 ENDS and 0 .. 5 MEMBERS, whose WISHES go through many ways; the same ones each time. */
+    private static void overChambers(String sentence, Claim claim) {
+        Checks.test(sentence, () -> {
+            int seed = 17;
+            for (int round = 0; round < 210; round++) {
+                QuestionDesk x = new QuestionDesk();
+                int ends = 1 + round % 7;
+                x.set(0, ends);
+                x.set(1, round / 7 % 2);
+                for (int m = 0; m < round % 6; m++) {
+                    x.member(0, 10);
+                    for (int e = 0; e < ends; e++) {
+                        seed = (seed * 31 + 7 * m + e) % 10007;
+                        x.wish(m, e, seed % 10);
+                    }
+                }
+                claim.of(x, ends);
+            }
+        });
+    }
+
+    private static void ringIsOne(QuestionDesk x, int ends) {
+        int top = x.top(0);
+        int many = Integer.bitCount(top) < 3 ? 0 : Integer.bitCount(top);
+        int met = 0;
+        for (int i = 0; i < many; i++) {
+            int end = x.ring(i);
+            int next = x.ring((i + 1) % many);
+            met |= 1 << end;
+            Checks.holds(end + " beats " + next, end != next && x.stands(end, next) == end);
+        }
+        Checks.due("all of TOP", met, many == 0 ? 0 : top);
+        Checks.holds("the least first", many == 0 || x.ring(0) == Integer.numberOfTrailingZeros(top));
+        for (int i = many; i < 7; i++) {
+            Checks.due("behind it", x.ring(i), -4);
+        }
+    }
+
+    private static void firstBrings(QuestionDesk x, int ends) {
+        for (int kind = 0; kind < 2; kind++) {
+            boolean deep = kind == 1;
+            for (int end = 0; end < ends; end++) {
+                int told = x.first(end, deep);
+                boolean comes = (x.reach(deep) >> end & 1) == 1;
+                Checks.holds("told if it comes: " + told, comes == (told != -4));
+                if (comes && ends > 1) {
+                    int[] row = new int[ends];
+                    for (int i = 0; i < ends; i++) {
+                        row[i] = told >> 3 * i & 7;
+                    }
+                    Desks.bytes(x, 0, row);
+                    Checks.due("what comes of it", x.order(0, deep), end);
+                }
+            }
+        }
+    }
+
+    private static void bestIsAlone(QuestionDesk x, int ends) {
+        int best = x.best();
+        boolean one = Integer.bitCount(x.top(0)) == 1;
+        Checks.holds("BEST just if TOP is one", one == (best != -4));
+        if (one) {
+            int alone = 1 << best;
+            Checks.holds("alone", x.top(0) == alone && x.top(1) == alone && x.reach(false) == alone && x.reach(true) == alone);
+        }
     }
 }
