@@ -1,3 +1,8 @@
+import java.util.ArrayList;
+import java.util.Collections;
+import java.util.List;
+import java.util.Random;
+
 /** Boundary cases that the document names in section 4 of ORDERS, and in promises 21 to 25, 34, 35, a test a sentence. */
 public final class OrderEdgesTest {
     private static final String[] FAR = {"8", "-1", "min", "max"};
@@ -149,24 +154,28 @@ public final class OrderEdgesTest {
         overChambers("4: BEST of all is TOP, REACH and UNCOVERED alone", OrderEdgesTest::bestIsAlone);
     }
 
-    /** Desks of 1 .. 7 ENDS and 0 .. 5 MEMBERS, whose WISHES go through many ways; the same ones each time. */
+    /** Desks of 1 .. 7 ENDS with 0 .. 5 MEMBERS, who like all of them in some order; the same ones each time. */
     private static void overChambers(String sentence, Claim claim) {
         Checks.test(sentence, () -> {
-            int seed = 17;
-            for (int round = 0; round < 210; round++) {
+            Random dice = new Random(17);
+            int rings = 0;
+            for (int round = 0; round < 1260; round++) {
                 QuestionDesk x = new QuestionDesk();
                 int ends = 1 + round % 7;
                 x.set(0, ends);
-                x.set(1, round / 7 % 2);
-                for (int m = 0; m < round % 6; m++) {
+                x.set(1, dice.nextInt(2));
+                List<Integer> likings = new ArrayList<>(List.of(0, 1, 2, 3, 4, 5, 6));
+                for (int m = 0; m < round / 7 % 6; m++) {
                     x.member(0, 10);
+                    Collections.shuffle(likings, dice);
                     for (int e = 0; e < ends; e++) {
-                        seed = (seed * 31 + 7 * m + e) % 10007;
-                        x.wish(m, e, seed % 10);
+                        x.wish(m, e, likings.get(e));
                     }
                 }
+                rings += Integer.bitCount(x.top(0)) >= 3 ? 1 : 0;
                 claim.of(x, ends);
             }
+            Checks.holds("some have a ring: " + rings, rings > 80);
         });
     }
 

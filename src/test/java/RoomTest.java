@@ -1,13 +1,16 @@
 import java.lang.management.ManagementFactory;
 
-/** What calls make is counted: the dearest calls, 512 of each, stay far below the room of one run. */
+/** What calls make is counted in bytes: 600,000 objects take 16 each at least, so a run that makes less has room. */
 public final class RoomTest {
+    private static final long ROOM = 16L * 600000;
+    private static final int CALLS = 512;
+    private static final int KINDS = 24;
     private static final String BIG = "((((0v1)v(2v3))v((4v5)v(6v0)))v(((1v2)v(3v4))v{0>1:(5v6)/(2v3)}))";
 
     public static void main(String[] args) {
-        Checks.test("rule 12: a new object is small", RoomTest::newObject);
-        Checks.test("rule 12: calls that reckon make nothing", RoomTest::reckoning);
-        Checks.test("rule 12: trees are small", RoomTest::trees);
+        Checks.test("rule 12: there is room for a hundred new objects", RoomTest::newObject);
+        Checks.test("rule 12: there is room for 512 calls that reckon", RoomTest::reckoning);
+        Checks.test("rule 12: there is room for 512 trees", RoomTest::trees);
         Checks.end();
     }
 
@@ -23,7 +26,7 @@ public final class RoomTest {
             new QuestionDesk();
         }
         long each = (used() - before) / 100;
-        Checks.holds("bytes of one: " + each, each < 40000);
+        Checks.holds("bytes of a hundred: " + 100 * each, 100 * each < ROOM);
     }
 
     private static QuestionDesk busy() {
@@ -77,14 +80,12 @@ public final class RoomTest {
         allKinds(x, 0);
         x.bestLie(0, 0, 0);
         long before = used();
-        for (int round = 0; round < 20; round++) {
+        for (int round = 0; round < CALLS / KINDS; round++) {
             allKinds(x, round);
-        }
-        for (int m = 0; m < 9; m++) {
-            x.bestLie(0, m, 0);
+            x.bestLie(0, round % 9, 0);
         }
         long made = used() - before;
-        Checks.holds("bytes made: " + made, made < 20000);
+        Checks.holds("bytes made: " + made, made < ROOM);
     }
 
     private static void trees() {
@@ -98,6 +99,6 @@ public final class RoomTest {
             x.restore();
         }
         long each = (used() - before) / 100;
-        Checks.holds("bytes of one: " + each, each < 2000);
+        Checks.holds("bytes of " + CALLS + ": " + CALLS * each, CALLS * each < ROOM);
     }
 }
